@@ -24,7 +24,7 @@ public final class OracleTest {
 
     public static void main(String[] args) {
         long first = args.length > 0 ? Long.parseLong(args[0]) : 1;
-        long many = args.length > 1 ? Long.parseLong(args[1]) : 60;
+        long many = args.length > 1 ? Long.parseLong(args[1]) : 40;
         for (long seed = first; seed < first + many; seed++) {
             OracleTest one = new OracleTest(seed);
             for (int i = 0; i < 512; i++) {
@@ -138,7 +138,8 @@ public final class OracleTest {
     }
 
     private void text() {
-        String t = random.nextInt(4) == 0 ? FIXED[random.nextInt(FIXED.length)] : randomText();
+        int kind = random.nextInt(4);
+        String t = kind == 0 ? FIXED[random.nextInt(FIXED.length)] : kind == 1 ? deepText() : randomText();
         if (random.nextInt(6) == 0 && !t.isEmpty()) {
             int at = random.nextInt(t.length());
             String odd = pick(' ', '^', '+', '-', 'x', 'z', 'w', '3', '0', '{', '/', ':', 200, 0) + "";
@@ -187,6 +188,20 @@ public final class OracleTest {
                 }
             }
             blank(t);
+        }
+        return t.toString();
+    }
+
+    /** TERMS of DEGREE 2 and more: ideals with something to their STAIR. */
+    private String deepText() {
+        StringBuilder t = new StringBuilder();
+        int terms = any(1, 5);
+        for (int k = 0; k < terms; k++) {
+            t.append(k > 0 ? "+" : "").append(any(1, 120));
+            int top = any(2, 5);
+            for (int f = 0; f < top; f++) {
+                t.append((char) ('x' + random.nextInt(vars)));
+            }
         }
         return t.toString();
     }
