@@ -1249,7 +1249,7 @@ public final class StairsNear {
 
         private void storeRow(int lead, int width, Numbers numbers) {
             int inverse = numbers.inverse(line[lead]);
-            Arrays.fill(rows[lead], 0);
+            // Ahead of its LEAD a row is never written: it is 0 there.
             for (int c = lead; c < width; c++) {
                 rows[lead][c] = numbers.times(line[c], inverse);
             }

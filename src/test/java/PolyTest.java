@@ -186,6 +186,10 @@ public final class PolyTest {
         Check.due("y^31", x.make(2, 0, 2, 6), -1);
         Check.due("nothing came", x.term(6, -1, 0), 0);
         x.ring(3, 101);
+        Check.read(x, 0, "z^15");
+        makes(2, 0, 0, 1, "z^30");
+        Check.read(x, 1, "z^16");
+        Check.due("z^31", x.make(2, 0, 1, 6), -1);
         Check.read(x, 0, "z^16");
         Check.due("z^32", x.make(2, 0, 0, 6), -1);
         row(0, 'x', 7);

@@ -314,22 +314,29 @@ public final class WeakTest {
     }
 
     private static void equation(int n, int p, String f, String... g) {
-        x.ring(n, p);
-        Check.read(x, 0, f);
-        for (int k = 0; k < g.length; k++) {
-            Check.read(x, k + 1, g[k]);
+        for (int first = 0; first + g.length <= 5; first++) {
+            equationFrom(first, n, p, f, g);
         }
-        Check.due(f + " is divided", x.weak(0, 126) > 0, true);
+    }
+
+    /** The SET's stand in SLOTS from the first on, in SLOT 5 what is divided, in SLOT 6 a 1. */
+    private static void equationFrom(int first, int n, int p, String f, String... g) {
+        x.ring(n, p);
+        for (int k = 0; k < g.length; k++) {
+            Check.read(x, first + k, g[k]);
+        }
+        Check.read(x, 5, f);
+        Check.due(f + " is divided", x.weak(5, 31) > 0, true);
+        Check.read(x, 6, "1");
         TreeMap<Integer, Long> left = new TreeMap<>();
         x.kept(1, 7);
-        add(left, 7, 0, 1, p);
+        add(left, 7, 5, 1, p);
         for (int k = 0; k < g.length; k++) {
-            x.kept(k + 3, 7);
-            add(left, 7, k + 1, -1, p);
+            x.kept(first + k + 2, 7);
+            add(left, 7, first + k, -1, p);
         }
         x.kept(0, 7);
-        Check.read(x, 0, "1");
-        add(left, 7, 0, -1, p);
+        add(left, 7, 6, -1, p);
         left.values().removeIf(num -> num == 0);
         Check.due("what is left of the equation of " + f, left.size(), 0);
         Check.due("step(-1, 2)", x.step(-1, 2), 1);
