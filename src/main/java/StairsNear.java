@@ -143,14 +143,15 @@ public final class StairsNear {
     }
 
     public int term(int slot, int i, int what) {
-        if (!isSlot(slot) || what < 0 || what > 4) {
+        if (!isSlot(slot)) {
             return NONE;
         }
         Poly f = slots[slot];
         if (i == NONE) {
+            // The document names no what here: whatever it is, the answer is the same.
             return f.size;
         }
-        if (i < 0 || i >= f.size) {
+        if (i < 0 || i >= f.size || what < 0 || what > 4) {
             return NONE;
         }
         return what == 0 ? f.nums[i] : tellMono(f.monos[i], what - 1);
@@ -450,6 +451,7 @@ public final class StairsNear {
         private static final int FIELD = 6;
         private static final int FIELDS = FIELD * MOST_VARIABLES;
         private static final int FULL = (1 << FIELD) - 1;
+        private static final int EACH = 1 << 2 * FIELD | 1 << FIELD | 1;
         static final int ONE = (1 << FIELDS) - 1;
         static final int BEYOND_ALL = Integer.MAX_VALUE;
 
@@ -479,9 +481,12 @@ public final class StairsNear {
                 && exponent(a, 2) <= exponent(b, 2);
         }
 
+        /**
+         * One more lifts an EXPONENT above 30, and no other, into its field's highest bit. Told by
+         * bits at once: three calls of exponent() here would make weak() nine calls deep.
+         */
         static boolean isTooHigh(int mono) {
-            return exponent(mono, 0) > MOST_EXPONENT || exponent(mono, 1) > MOST_EXPONENT
-                || exponent(mono, 2) > MOST_EXPONENT;
+            return ((~mono & ONE) + EACH & EACH * (MOST_EXPONENT + 2)) != 0;
         }
     }
 

@@ -7,6 +7,7 @@ public final class PolyTest {
         show();
         out();
         term();
+        termOfAnotherWhat();
         shape();
         sums();
         products();
@@ -72,13 +73,26 @@ public final class PolyTest {
                 Check.due("term(" + slot + ", -1, " + what + ")", x.term(slot, -1, what), -1);
             }
         }
-        Check.due("term(5, 0, 5)", x.term(5, 0, 5), -1);
-        Check.due("term(5, 0, -1)", x.term(5, 0, -1), -1);
-        Check.due("term(5, -1, 5)", x.term(5, -1, 5), -1);
         x.ring(1, 7);
         Check.read(x, 0, "x^2");
         Check.due("no y in it", x.term(0, 0, 2), 0);
         Check.due("no z in it", x.term(0, 0, 3), 0);
+    }
+
+    /** A TERM has no other what than 0 .. 4, but how many TERMS there are is told for every one. */
+    private static void termOfAnotherWhat() {
+        x.ring(3, 101);
+        Check.read(x, 5, "7x^3y^2z+4+zx");
+        for (int what : new int[] {-1, 5, -2, 6, Integer.MIN_VALUE, Integer.MAX_VALUE}) {
+            Check.due("term(5, 0, " + what + ")", x.term(5, 0, what), -1);
+            Check.due("term(5, 3, " + what + ")", x.term(5, 3, what), -1);
+            Check.due("term(5, -2, " + what + ")", x.term(5, -2, what), -1);
+            Check.due("term(5, -1, " + what + ")", x.term(5, -1, what), 3);
+            Check.due("term(0, -1, " + what + ")", x.term(0, -1, what), 0);
+            for (int slot : NO_SLOTS) {
+                Check.due("term(" + slot + ", -1, " + what + ")", x.term(slot, -1, what), -1);
+            }
+        }
     }
 
     private static void shapeOf(String text, int... want) {

@@ -218,14 +218,14 @@ final class Reference {
     }
 
     int term(int slot, int i, int what) {
-        if (!slotOk(slot) || what < 0 || what > 4) {
+        if (!slotOk(slot)) {
             return NONE;
         }
         List<List<Integer>> list = sorted(slots.get(slot));
         if (i == NONE) {
             return list.size();
         }
-        if (i < 0 || i >= list.size()) {
+        if (i < 0 || i >= list.size() || what < 0 || what > 4) {
             return NONE;
         }
         List<Integer> m = list.get(i);
