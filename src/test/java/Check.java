@@ -1,16 +1,26 @@
-/** What the tests share: answers that are due, texts on THE TAPE, texts that are SHOWN. */
+/** What the tests share: answers that are due, and the sentence of the document that asks for them. */
 final class Check {
     private static int wrong = 0;
     private static int asked = 0;
+    private static String sentence = "";
 
     private Check() {
+    }
+
+    /**
+     * From here on a new object is tested for these words of the document (SentencesTest looks
+     * whether they stand there, and whether none is left out).
+     */
+    static Near says(String section, String words) {
+        sentence = section + ", \"" + words + "\": ";
+        return new Near();
     }
 
     static void due(String call, long got, long want) {
         asked++;
         if (got != want) {
             wrong++;
-            System.out.println(call + " answered " + got + ", due is " + want);
+            System.out.println(sentence + call + " answered " + got + ", due is " + want);
         }
     }
 
@@ -22,7 +32,7 @@ final class Check {
         asked++;
         if (!got.equals(want)) {
             wrong++;
-            System.out.println(call + " answered \"" + got + "\", due is \"" + want + "\"");
+            System.out.println(sentence + call + " answered \"" + got + "\", due is \"" + want + "\"");
         }
     }
 
@@ -44,28 +54,5 @@ final class Check {
             word = word << 8 | (i < text.length() ? text.charAt(i) : 0);
         }
         return word;
-    }
-
-    /** THE TAPE is this text then. */
-    static void tape(StairsNear x, String text) {
-        x.end(0);
-        for (int i = 0; i < text.length(); i += 20) {
-            x.feed(four(text, i), four(text, i + 4), four(text, i + 8), four(text, i + 12), four(text, i + 16));
-        }
-        x.end(text.length());
-    }
-
-    static int read(StairsNear x, int slot, String text) {
-        tape(x, text);
-        return x.poly(slot);
-    }
-
-    static String shown(StairsNear x, int slot) {
-        int many = x.show(slot);
-        StringBuilder text = new StringBuilder();
-        for (int i = 0; i < many; i++) {
-            text.append((char) x.out(i));
-        }
-        return text.toString();
     }
 }
