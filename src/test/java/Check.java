@@ -1,10 +1,29 @@
 /** What the tests share: answers that are due, and the sentence of the document that asks for them. */
 final class Check {
+    private static final long MOST_SECONDS = 600;
+
     private static int wrong = 0;
     private static int asked = 0;
-    private static String sentence = "";
+    private static volatile String sentence = "";
+
+    static {
+        Thread watch = new Thread(Check::endWhatDoesNotEnd);
+        watch.setDaemon(true);
+        watch.start();
+    }
 
     private Check() {
+    }
+
+    /** A call that fails to end is a fault like others. */
+    private static void endWhatDoesNotEnd() {
+        try {
+            Thread.sleep(1000 * MOST_SECONDS);
+        } catch (InterruptedException e) {
+            return;
+        }
+        System.out.println(sentence + "a call does not end");
+        Runtime.getRuntime().halt(1);
     }
 
     /**

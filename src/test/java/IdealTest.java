@@ -41,6 +41,7 @@ public final class IdealTest {
         numberOfNone();
         numberThatCantBe();
         slotsThatChange();
+        numbersBetween();
         manySets();
         Check.finish();
     }
@@ -715,6 +716,19 @@ public final class IdealTest {
         Check.due("ring", x.length(set, 0), -1);
         x.read(0, "x^2");
         Check.due("ring", x.length(set, 0), 3);
+    }
+
+    private static void numbersBetween() {
+        Near x = Check.says("Promise 23", "of a SLOT.");
+        ideal(x, 2, 101, "x^2", "y^3", "x^2+xy^2+y^5", "x", "y^2", "xy");
+        for (int turn = 0; turn < 6; turn++) {
+            for (int slot = 0; slot < 6; slot++) {
+                Check.due("of none", x.stairs(0, 3, -1), 6);
+                Check.due("of SLOT " + slot, x.number(slot, 0), new int[] {-1, -1, 3, 0, -1, 1}[slot]);
+                Check.due("LENGTH of SLOTS 0, 1", x.length(3, 1), 6);
+                Check.due("LENGTH of SLOTS 3, 4", x.length(24, 1), 2);
+            }
+        }
     }
 
     private static void manySets() {

@@ -199,8 +199,10 @@ final class Near {
         call.append(')');
         calls.add(call.toString());
         Check.due(call + ", held against Reference,", got, want);
-        if (calls.size() == MOST_CALLS + 1) {
-            Check.due("the test's calls of one object", calls.size(), MOST_CALLS);
+        if (calls.size() > MOST_CALLS) {
+            // No test asks so much: it waits for an answer that does not come.
+            Check.due("the calls of one object", calls.size(), MOST_CALLS);
+            Check.finish();
         }
         return got;
     }

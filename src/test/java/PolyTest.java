@@ -15,6 +15,7 @@ public final class PolyTest {
         lowHighEcart();
         slotsAtFirst();
         showTerms();
+        showLongest();
         showNumbers();
         showVariables();
         showExponents();
@@ -188,6 +189,20 @@ public final class PolyTest {
         int many = x.show(1);
         Check.due("the last of sixty", x.out(many - 1), '9');
         Check.due("behind it", x.out(many), -1);
+    }
+
+    private static void showLongest() {
+        Near x = Check.says("Promise 8", "how many bytes.");
+        x.ring(3, 32749);
+        x.read(0, "x^10+x^11+x^12+x^13+x^14+x^15+x^16+x^17+x^18+x^19");
+        x.read(1, "-y^10z^30-y^11z^30-y^12z^30-y^13z^30-y^14z^30-y^15z^30");
+        Check.due("60 TERMS", x.make(2, 0, 1, 2), 60);
+        // 32748x^10y^10z^30: 17 bytes each, and 59 +.
+        Check.due("bytes", x.show(2), 60 * 17 + 59);
+        Check.due("the first", x.out(0), '3');
+        Check.due("the last but one", x.out(1077), '3');
+        Check.due("the last", x.out(1078), '0');
+        Check.due("behind it", x.out(1079), -1);
     }
 
     private static void showNumbers() {
@@ -510,8 +525,7 @@ public final class PolyTest {
         x.read(5, "y^7");
         Check.due("a product of 70", x.make(2, 0, 1, 5), -1);
         Check.due("nothing came", x.shown(5), "y^7");
-        // 60 and y^6: the tenth of y^6 comes alone.
-        x.make(2, 0, 3, 3);
+        // 60, and y^6 by the last.
         x.read(1, "1+y+y^2+y^3+y^4+y^5");
         x.read(6, "1+x+x^2+x^3+x^4+x^5+x^6+x^7+x^8+x^9+y");
         Check.due("a product of 61", x.make(2, 6, 1, 5), -1);

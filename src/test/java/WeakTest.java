@@ -509,32 +509,24 @@ public final class WeakTest {
     private static void keptTells() {
         Near x = Check.says("Promise 15", "Of the latest WEAK DIVISION h (k 0), u (1), q of SLOT k less 2 "
             + "(k 2 .. 9: SLOTS 0 .. 7 by their numbers) comes into a SLOT: how many TERMS.");
-        // 1 + 2x_ + 3x^2 .. is divided by eight: each SLOT's q is a number of its own.
-        x.ring(3, 101);
-        String[] own = {"x", "y", "z", "x^2", "y^2", "z^2", "xyz", "7"};
-        for (int slot = 0; slot < 8; slot++) {
-            x.read(slot, own[slot]);
-        }
-        x.weak(7, 127);
-        Check.due("no STEP", x.kept(0, 7), 1);
-        x.read(7, "1+2x+3y+4z");
-        x.make(1, 7, 0, 7);
-        x.read(6, "x+5y+9z");
-        Check.due("by x, y, z", x.weak(6, 7), 3);
-        Check.due("kept(0)", x.keptShown(0, 7), "0");
-        Check.due("kept(1)", x.keptShown(1, 7), "1");
-        Check.due("kept(2)", x.keptShown(2, 7), "1");
-        Check.due("kept(3)", x.keptShown(3, 7), "5");
-        Check.due("kept(4)", x.keptShown(4, 7), "9");
+        hold(x, 3, 101, "x", "y", "z", "0", "0", "0", "x+5y+9z+7y^2z^2+3z^9");
+        Check.due("by x, y, z", x.weak(6, 7), 5);
+        Check.due("h", x.keptShown(0, 7), "0");
+        Check.due("u", x.keptShown(1, 7), "1");
+        Check.due("q of SLOT 0", x.keptShown(2, 7), "1");
+        Check.due("q of SLOT 1", x.keptShown(3, 7), "5+7yz^2");
+        Check.due("q of SLOT 2", x.keptShown(4, 7), "9+3z^8");
         for (int slot = 0; slot < 8; slot++) {
             x.ring(1, 101);
-            x.read(slot, slot + 2 + "x");
-            x.read(7 - slot, slot == 4 || slot == 3 ? "x^3" : "x^2");
-            int f = 7 - slot;
-            Check.due("weak(" + f + ", SLOT " + slot + ")", x.weak(f, 1 << slot), 1);
-            Check.due("TERMS of its q", x.kept(slot + 2, 5), 1);
-            Check.due("TERMS of h", x.kept(0, 5), 0);
-            Check.due("TERMS of u", x.kept(1, 5), 1);
+            x.read(slot, "2x");
+            x.read(7 - slot, "x^3");
+            Check.due("weak(" + (7 - slot) + ", SLOT " + slot + ")", x.weak(7 - slot, 1 << slot), 1);
+            for (int k = 2; k < 10; k++) {
+                Check.due("TERMS of q, k " + k, x.kept(k, 4), k == slot + 2 ? 1 : -1);
+            }
+            Check.due("q", x.shown(4), "51x^2");
+            Check.due("TERMS of u", x.kept(1, 4), 1);
+            Check.due("TERMS of h", x.kept(0, 4), 0);
         }
         x.ring(2, 101);
         x.read(0, "x+xy+y^3");
